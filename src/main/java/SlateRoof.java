@@ -666,7 +666,7 @@ public final class SlateRoof {
         }
 
         void addCourse(int length) {
-            if (courses < MOST_COURSES) {
+            if (courses >= 0 && courses < lengths.length) {
                 lengths[courses] = length;
                 laid[courses] = 0;
                 courses++;

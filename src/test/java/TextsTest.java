@@ -243,6 +243,11 @@ public final class TextsTest {
         Check.same("work: a storm on a done roof leaves it dry", roof.count(9), 0);
         Check.same("work: mended and laid on the day of the storm", Setup.work(roof, "s"), 2);
         Check.same("work: effort of mending and laying", roof.count(8), 56);
+        Setup.work(roof, "r2d");
+        Check.same("work: nothing falls in the rain", roof.count(13), 3);
+        roof.cover(true);
+        Setup.work(roof, "s5");
+        Check.same("work: nothing falls under the cover", roof.count(13), 3);
     }
 
     private static void promise16Undo() {

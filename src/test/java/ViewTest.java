@@ -33,6 +33,18 @@ public final class ViewTest {
         courseOf(roof, 2, 12, 5, 2, 4, 19, 2, 4);
         roof.set(0, 6);
         courseOf(roof, 1, 17, 6, 5, 5, 12, 3, 3);
+        SlateRoof edges = new SlateRoof();
+        edges.begin(100, 30);
+        Setup.buyWhole(edges, 10, 30);
+        edges.set(1, 30);
+        Setup.work(edges, "d4");
+        courseOf(edges, 0, 10, 30, 30, 3, 3, SlateRoof.NONE, SlateRoof.NONE);
+        Check.same("courseOf: places 0, 5 to 25 fall", edges.pass(2), 6);
+        courseOf(edges, 0, 10, 30, 24, 3, 3, 0, 25);
+        SlateRoof corner = Setup.smallDone();
+        Setup.work(corner, "d4");
+        corner.pass(2);
+        courseOf(corner, 1, 24, 5, 4, 10, 20, 0, 0);
         Check.badIndex("courseOf(3, 0)", roof, () -> roof.courseOf(3, 0));
         Check.badIndex("courseOf(-1, 0)", roof, () -> roof.courseOf(-1, 0));
         Check.badArgument("courseOf(0, -1)", roof, () -> roof.courseOf(0, -1));
@@ -249,13 +261,19 @@ public final class ViewTest {
         roof.set(1, 1);
         Setup.buyWhole(roof, 8, 205);
         Check.same("dryDays: 80 courses of 200 slates", roof.dryDays(), 200);
+        roof.pass(1);
+        Check.same("dryDays: the second day is dry, so 201", roof.dryDays(), SlateRoof.NONE);
+        roof.set(2, 1);
+        roof.pass(1);
+        Check.same("dryDays: the first day is dry, so 200", roof.dryDays(), 200);
+        roof.pass(0);
         roof.begin(161, 2);
         Check.same("dryDays: 202 slates", roof.dryDays(), SlateRoof.NONE);
         roof.set(1, 2);
         Check.same("dryDays: 202 slates, two a day", roof.dryDays(), 101);
         for (int time = 0; time < 5; time++) {
             roof.cover(true);
-            Setup.work(roof, "r99r99d2");
+            Setup.work(roof, time == 4 ? "r99r98" : "r99r99d2");
         }
         Check.same("dryDays: day 1000", roof.count(7), 1000);
         Check.same("dryDays: the limit of the days does not matter", roof.dryDays(), 101);
@@ -311,7 +329,9 @@ public final class ViewTest {
         Setup.buyBroken(roof, 24, 1);
         Check.sameDouble("meanPrice: none on the roof", roof.meanPrice(), 0.0);
         roof.course(12);
-        roof.lay(2);
+        roof.lay(1);
+        Check.sameDouble("meanPrice: 99 / 1", roof.meanPrice(), 99.0);
+        roof.lay(1);
         Check.sameDouble("meanPrice: 99 / 2", roof.meanPrice(), 49.5);
         roof.lay(1);
         Check.sameDouble("meanPrice: 99 / 3", roof.meanPrice(), 33.0);
