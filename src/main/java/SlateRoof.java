@@ -666,7 +666,7 @@ public final class SlateRoof {
         }
 
         void addCourse(int length) {
-            if (courses >= 0 && courses < lengths.length) {
+            if (courses >= 0 && courses < lengths.length && courses < laid.length) {
                 lengths[courses] = length;
                 laid[courses] = 0;
                 courses++;
@@ -842,7 +842,7 @@ public final class SlateRoof {
         int parts;
 
         void addSign(char sign) {
-            if (length < signs.length) {
+            if (length >= 0 && length < signs.length) {
                 signs[length] = sign;
                 length++;
             }
@@ -873,21 +873,22 @@ public final class SlateRoof {
 
         /** Takes a complete row apart, and tells how many days it has. */
         int readParts() {
-            parts = 0;
             int days = 0;
             int index = 0;
-            while (index < length && parts < weathers.length) {
-                weathers[parts] = weatherOf(signAt(index));
+            int part = 0;
+            while (index < length && part < weathers.length && part < repeats.length) {
+                weathers[part] = weatherOf(signAt(index));
                 index++;
                 int number = 0;
                 while (index < length && isDigit(signAt(index))) {
                     number = number * 10 + (signAt(index) - '0');
                     index++;
                 }
-                repeats[parts] = Math.max(1, number);
-                days += repeats[parts];
-                parts++;
+                repeats[part] = Math.max(1, number);
+                days += repeats[part];
+                part++;
             }
+            parts = part;
             return days;
         }
 
